@@ -1,3 +1,4 @@
+import java.util.Arrays;
 import java.util.NoSuchElementException;
 
 /**
@@ -391,9 +392,10 @@ public final class NumberText {
         }
 
         void addTimes(int b, int times) {
-            for (int i = 0; i < times && !over; i++) {
-                add(b);
-            }
+            int fitting = Math.min(Math.max(times, 0), row.length - length);
+            Arrays.fill(row, length, length + fitting, (byte) b);
+            length += fitting;
+            over = over || fitting < times;
         }
 
         void addString(String s) {
@@ -403,9 +405,12 @@ public final class NumberText {
         }
 
         void addPart(Bytes other, int from, int to) {
-            for (int i = from; i < to && !over; i++) {
-                add(other.at(i));
-            }
+            int start = Math.min(Math.max(from, 0), other.length);
+            int wanted = Math.max(Math.min(to, other.length) - start, 0);
+            int fitting = Math.min(wanted, row.length - length);
+            System.arraycopy(other.row, start, row, length, fitting);
+            length += fitting;
+            over = over || fitting < wanted;
         }
 
         void copy(Bytes other) {
@@ -663,9 +668,11 @@ public final class NumberText {
         }
 
         void addDigits(Bytes out, int from, int many) {
-            for (int i = 0; i < many; i++) {
+            int real = Math.min(many, Math.max(size - from, 0));
+            for (int i = 0; i < real; i++) {
                 out.add('0' + digit(from + i));
             }
+            out.addTimes('0', many - real);
         }
     }
 
@@ -1580,10 +1587,13 @@ public final class NumberText {
         }
 
         private void addCased(Bytes bytes) {
+            if (!upper) {
+                result.addPart(bytes, 0, bytes.length);
+                return;
+            }
             for (int i = 0; i < bytes.length; i++) {
                 int b = bytes.at(i);
-                boolean raised = upper && b >= 'a' && b <= 'z';
-                result.add(raised ? b - 'a' + 'A' : b);
+                result.add(b >= 'a' && b <= 'z' ? b - 'a' + 'A' : b);
             }
         }
     }
