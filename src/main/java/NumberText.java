@@ -1,4 +1,3 @@
-import java.util.Arrays;
 import java.util.NoSuchElementException;
 
 /**
@@ -243,7 +242,6 @@ public final class NumberText {
         if (!old.present) {
             formatCount++;
         }
-        old.present = false;
         spare.present = true;
         formats[f] = spare;
         spare = old;
@@ -393,7 +391,9 @@ public final class NumberText {
 
         void addTimes(int b, int times) {
             int fitting = Math.min(Math.max(times, 0), row.length - length);
-            Arrays.fill(row, length, length + fitting, (byte) b);
+            for (int i = 0; i < fitting; i++) {
+                row[length + i] = (byte) b;
+            }
             length += fitting;
             over = over || fitting < times;
         }
@@ -758,7 +758,8 @@ public final class NumberText {
 
         private void setUp(Binary x) {
             int top = x.q + 63 - Long.numberOfLeadingZeros(x.c);
-            // at most one too small: the number lies between 2^top and twice that
+            // 78913 / 2^18 is just below the decimal logarithm of 2; the number lies between 2^top and twice that,
+            // so that the point is right or one too small
             point = (top * 78913 >> 18) + 1;
             int twos = x.q - point;
             int over = Math.max(twos, 0);
