@@ -115,6 +115,26 @@ final class Model {
         return arguments.size();
     }
 
+    /** One more argument of the kind that the value's class says; null is none. */
+    void add(Object v) {
+        if (v instanceof String) {
+            tape = (String) v;
+            text();
+        } else if (v instanceof Float) {
+            argument(5, Float.floatToRawIntBits((Float) v));
+        } else if (v instanceof Double) {
+            argument(6, Double.doubleToRawLongBits((Double) v));
+        } else if (v instanceof Long) {
+            argument(4, (Long) v);
+        } else if (v instanceof Integer) {
+            argument(3, (Integer) v);
+        } else if (v instanceof Character) {
+            argument(2, (Character) v);
+        } else {
+            argument(v == null ? 0 : 1, Boolean.TRUE.equals(v) ? 1 : 0);
+        }
+    }
+
     int text() {
         String t = tape;
         tape = "";

@@ -6,13 +6,15 @@ public final class ModelTest {
     private static final String NUMBER_BYTES = "0123456789.eEpPxXfFdD+- NaInity\n\u00a0";
     private static final String FORMAT_BYTES = "%0123456789$<-#+ ,(.doxXeEfgGaAcCsSbB%nqz\u00e9";
     private static final String CONVERSIONS = "doxXeEfgGaAcCsSbB%n";
-    private static final int CALLS = 512;
+    /** Told in place of a fault when the run has had all its calls. */
+    private static final String OVER = "the run is over";
+    /** Words of a long result that are looked at. */
+    private static final int WORDS = 20;
 
     private final Random random;
     private final Model model = new Model();
-    private final NumberText real = new NumberText();
+    private final Subject real = new Subject();
     private final StringBuilder log = new StringBuilder();
-    private int calls = 0;
 
     private ModelTest(long seed) {
         // seeds in a row would begin alike
@@ -20,7 +22,7 @@ public final class ModelTest {
     }
 
     public static void main(String[] args) {
-        int runs = args.length > 0 ? Integer.parseInt(args[0]) : 300;
+        int runs = args.length > 0 ? Integer.parseInt(args[0]) : 600;
         long first = args.length > 1 ? Long.parseLong(args[1]) : 1;
         for (long seed = first; seed < first + runs; seed++) {
             ModelTest test = new ModelTest(seed);
@@ -36,17 +38,15 @@ public final class ModelTest {
 
     private String run() {
         int only = random.nextInt(8);
-        while (calls < CALLS) {
+        String fault = null;
+        while (fault == null) {
             int what = only < 4 ? only : random.nextInt(8);
-            String fault = step(what);
+            fault = step(what);
             if (fault == null && random.nextInt(4) == 0) {
                 fault = compareCounts();
             }
-            if (fault != null) {
-                return fault;
-            }
         }
-        return null;
+        return fault == OVER ? null : fault;
     }
 
     private String step(int what) {
@@ -72,7 +72,9 @@ public final class ModelTest {
     // ---- one call on both ----
 
     private String call(String name, long... a) {
-        calls++;
+        if (real.calls() == Subject.PROMISED_CALLS) {
+            return OVER;
+        }
         String due = answer(true, name, a);
         String got = answer(false, name, a);
         if (log.length() < 20000) {
@@ -131,8 +133,12 @@ public final class ModelTest {
     }
 
     private String compareResults() {
-        String got = Check.result(real);
-        return got.equals(model.result) ? null : "the result is [" + got + "], due is [" + model.result + "]";
+        int length = model.result.length();
+        String fault = first(call("count", 1), call("word", length - 1));
+        for (int i = 0; i < WORDS && i * 8 < length && fault == null; i++) {
+            fault = call("word", length <= WORDS * 8 ? i * 8 : random.nextInt(length));
+        }
+        return fault;
     }
 
     private String compareCounts() {
