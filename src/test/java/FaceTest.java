@@ -30,7 +30,8 @@ public final class FaceTest {
     };
 
     public static void main(String[] args) {
-        Check check = new Check("FaceTest");
+        Check check = new Check("The public face");
+        check.sentence("public final class NumberText");
         List<String> seen = new ArrayList<>();
         List<String> publicNames = new ArrayList<>();
         for (Method m : NumberText.class.getDeclaredMethods()) {
@@ -47,6 +48,7 @@ public final class FaceTest {
         Constructor<?>[] constructors = NumberText.class.getDeclaredConstructors();
         check.due("constructors", constructors.length, 1);
         check.due("parameters of it", constructors[0].getParameterCount(), 0);
+        check.due("it is public", Modifier.isPublic(constructors[0].getModifiers()), true);
         check.due("the class is public and final", NumberText.class.getModifiers() & 17, 17);
         for (Class<?> inside : NumberText.class.getDeclaredClasses()) {
             check.due(inside + " is static", Modifier.isStatic(inside.getModifiers()), true);

@@ -22,6 +22,7 @@ public final class Promise12Test {
         Promise12Barred.all(check);
         behindWrong();
         keepsOld();
+        manyInTurn();
         order();
         answer();
         shortTexts();
@@ -265,6 +266,27 @@ public final class Promise12Test {
         y.put("").compile(2);
         check.answers("an empty one takes its place", 0, () -> y.format(2));
         check.answers("formats", 1, () -> y.count(4));
+    }
+
+    /** Good and faulty ones in turn, at all numbers: each format is its own. */
+    private static void manyInTurn() {
+        check.sentence("The TAPE ... is FORMAT f from now on; WRONG, BARRED: FORMAT f stays as it was");
+        Subject y = new Subject().with("x");
+        String[] due = new String[8];
+        for (int round = 0; round < 3; round++) {
+            for (int i = 0; i < 8; i++) {
+                int f = (i * 5 + round) % 8;
+                y.withFormat(f, "f" + f + " round " + round + " %1$s");
+                due[f] = "f" + f + " round " + round + " x";
+                int g = (f + 3) % 8;
+                y.put(round % 2 == 0 ? "faulty %1$s%s%s%" : "faulty %1$s%s%s%-d");
+                check.refuses("a faulty one", round % 2 == 0 ? WRONG : BARRED, () -> y.compile(g));
+            }
+        }
+        for (int f = 0; f < 8; f++) {
+            y.format(f);
+            check.due("format " + f, y.result(), due[f]);
+        }
     }
 
     private static void order() {

@@ -243,6 +243,13 @@ public final class Promise13Test {
         Map<String, String> now = check.changes("format", "9", maker, x -> x.format(5), Check.PLACE, Check.RESULT);
         check.due("the place", now.get(Check.PLACE), "-1");
         check.due("the result", now.get(Check.RESULT), "1 and two");
+        for (int f : new int[] {7, 5}) {
+            Map<String, String> bare = check.changes("format(" + f + ") without directives", "5",
+                () -> f == 7 ? State.rich() : State.rich().withFormat(5, "seven"), x -> x.format(f), Check.PLACE,
+                Check.RESULT);
+            check.due("the place", bare.get(Check.PLACE), "-1");
+            check.due("the result", bare.get(Check.RESULT), "seven");
+        }
         prints(check, "", "");
         prints(check, "", "%s", "");
         prints(check, "no directive \0\u00ff", "no directive \0\u00ff", 1, 2);

@@ -152,6 +152,16 @@ public final class Promise15Test {
         check.answers("the latest place", 2, () -> x.count(PLACE));
         x.put("good").compile(7);
         check.answers("a good one tells none", -1, () -> x.count(PLACE));
+        x.put("%");
+        check.refuses("a wrong one", UnsupportedOperationException.class, () -> x.compile(6));
+        check.answers("its place", 0, () -> x.count(PLACE));
+        check.answers("a format without directives", 4, () -> x.format(7));
+        check.answers("tells none", -1, () -> x.count(PLACE));
+        x.put("").compile(7);
+        check.refuses("unfit", UnsupportedOperationException.class, () -> x.format(0));
+        check.answers("its place", 2, () -> x.count(PLACE));
+        check.answers("a format of no bytes", 0, () -> x.format(7));
+        check.answers("tells none", -1, () -> x.count(PLACE));
     }
 
     private static void doesNotCount() {
